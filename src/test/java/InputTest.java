@@ -6,6 +6,7 @@ public final class InputTest {
         appendLimit();
         truncate();
         errorPositions();
+        cutStatements();
         tooManyStatements();
         loadReplacesAll();
         loadOfBadText();
@@ -177,6 +178,42 @@ public final class InputTest {
         position("net 2;scheduler greedy", -1);
         position("net 2;scheduler plain", 16);
         position("net 2;scheduler exact;scheduler exact", 22);
+    }
+
+    /** Each statement ends behind each of its tokens, and another one follows or not. */
+    private static void cutStatements() {
+        String head = "net 3;link 0 1 1;link 1 2 1";
+        String[] statements = {"link 2 0 5", "conflict 0 1", "flow 0 2 30", "mode plain", "excess 3", "bias 3",
+            "scheduler exact", "flow 0 2 30 budget 9"};
+        for (String statement : statements) {
+            String[] tokens = statement.split(" ");
+            StringBuilder text = new StringBuilder(head).append(';');
+            for (int k = 0; k < tokens.length - 1; k++) {
+                text.append(tokens[k]).append(' ');
+                boolean whole = statement.startsWith("flow") && k == 3;
+                position(text.toString(), whole ? -1 : text.length());
+                position(text + ";link 2 1 1", whole ? -1 : text.length());
+                position(text + "net", text.length());
+                position(text + "*", text.length());
+            }
+            text.append(tokens[tokens.length - 1]);
+            position(text.toString(), -1);
+            position(text + ";link 2 1 1", -1);
+        }
+        String[] near = {"mink 0 1 1", "link", "linkz 2 0 1", "zlink 2 0 1", "linl 2 0 1", "ling 2 0 1", "lin 2 0 1"};
+        for (String word : near) {
+            position(head + ";" + word, word.equals("link") ? head.length() + 5 : head.length() + 1);
+        }
+        position("bet 3", 0);
+        position("netz 3", 0);
+        position("neta 3", 0);
+        position("ne 3", 0);
+        position("net`3", 3);
+        position("net{3", 3);
+        position("net /3", 4);
+        position("net :3", 4);
+        position("net 3/", 5);
+        position("net 3:", 5);
     }
 
     private static String links(int count) {

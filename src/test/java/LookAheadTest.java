@@ -205,6 +205,15 @@ public final class LookAheadTest {
         net.setBudget(0, 1);
         Expect.same("they expire", net.sustainable(0, 20), 300);
         Expect.same("the rate stays", net.flow(0, 2), 0);
+        PressureNet late = Expect.net("net 2;flow 0 1 0");
+        late.run(50);
+        late.run(49);
+        late.inject(0, 100);
+        // In slot 99 a packet of a flow of the rate 1 comes.
+        Expect.same("0 is enough, 1 too much", late.sustainable(0, 1), 0);
+        late.undo();
+        late.inject(0, 99);
+        Expect.same("rate 100 brings one packet", late.sustainable(0, 1), 100);
     }
 
     /** For any net, what is foretold comes. */

@@ -149,6 +149,13 @@ public final class NetTest {
         PressureNet greater = Expect.net("net 6;link 0 1 5;link 1 2 5;link 2 5 5;link 0 3 5;link 3 2 5;link 1 4 5;link 4 5 5");
         Expect.same("maxFlow", greater.maxFlow(0, 5), 10);
         Expect.same("side", greater.cutSide(0, 5), 1);
+        PressureNet wide = Expect.net("net 9");
+        for (int n = 1; n < 8; n++) {
+            wide.addLink(0, n, 5);
+            wide.addLink(n, 8, 5);
+        }
+        Expect.same("14 links of 5", wide.maxFlow(0, 8), 35);
+        Expect.same("side", wide.cutSide(0, 8), 1);
     }
 
     private static void overloaded() {

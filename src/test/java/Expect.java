@@ -25,6 +25,14 @@ final class Expect {
         }
     }
 
+    static void alike(String what, String got, String want) {
+        checks++;
+        if (!got.equals(want)) {
+            wrong++;
+            System.out.println(what + " shows\n" + got + "\ndue is\n" + want);
+        }
+    }
+
     static void fails(String what, Class<? extends RuntimeException> due, Call call) {
         checks++;
         try {

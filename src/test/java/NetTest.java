@@ -1,3 +1,5 @@
+import java.util.Random;
+
 /** Promises 21 to 28. */
 public final class NetTest {
     public static void main(String[] args) {
@@ -8,6 +10,7 @@ public final class NetTest {
         hops();
         maxFlowAndCut();
         backwards();
+        allCuts();
         overloaded();
         Expect.end("NetTest");
     }
@@ -156,6 +159,53 @@ public final class NetTest {
         }
         Expect.same("14 links of 5", wide.maxFlow(0, 8), 35);
         Expect.same("side", wide.cutSide(0, 8), 1);
+    }
+
+    /** The greatest flow is the least sum of capacities that leave a set; the smallest such set is the side. */
+    private static void allCuts() {
+        Random random = new Random(7);
+        for (int round = 0; round < 60; round++) {
+            int nodes = 4 + random.nextInt(4);
+            PressureNet net = Expect.net("net " + nodes);
+            int[][] capacity = new int[nodes][nodes];
+            for (int i = 0; i < 40 && net.count(1) < 14; i++) {
+                int from = random.nextInt(nodes);
+                int to = random.nextInt(nodes);
+                if (from != to && capacity[from][to] == 0) {
+                    capacity[from][to] = 1 + random.nextInt(5);
+                    net.addLink(from, to, capacity[from][to]);
+                }
+            }
+            for (int from = 0; from < nodes; from++) {
+                for (int to = 0; to < nodes; to++) {
+                    if (from != to) {
+                        cut(net, capacity, from, to);
+                    }
+                }
+            }
+        }
+    }
+
+    private static void cut(PressureNet net, int[][] capacity, int from, int to) {
+        int least = Integer.MAX_VALUE;
+        int smallest = 0;
+        for (int set = 0; set < 1 << capacity.length; set++) {
+            if ((set >> from & 1) == 0 || (set >> to & 1) == 1) {
+                continue;
+            }
+            int sum = 0;
+            for (int a = 0; a < capacity.length; a++) {
+                for (int b = 0; b < capacity.length; b++) {
+                    sum += (set >> a & 1) == 1 && (set >> b & 1) == 0 ? capacity[a][b] : 0;
+                }
+            }
+            if (sum < least || sum == least && Integer.bitCount(set) < Integer.bitCount(smallest)) {
+                least = sum;
+                smallest = set;
+            }
+        }
+        Expect.same("maxFlow as by all cuts", net.maxFlow(from, to), least);
+        Expect.same("cutSide as by all cuts", net.cutSide(from, to), smallest);
     }
 
     private static void overloaded() {

@@ -1,17 +1,5 @@
 /** Boundary cases of promises 6 to 16: one method for each sentence that names one. */
-public final class BoundsOfChangesTest {
-    private static final Class<? extends RuntimeException> INDEX = Expect.INDEX;
-    private static final Class<? extends RuntimeException> ARGUMENT = Expect.ARGUMENT;
-    private static final Class<? extends RuntimeException> STATE = Expect.STATE;
-
-    /** 4 nodes, 5 links (none from 0 to 2), 3 flows. */
-    private static final Twins BUSY = new Twins(Twins::busy);
-    /** 10 nodes, 14 links, 6 flows. */
-    private static final Twins WIDE = new Twins(Twins::wide);
-    private static final Twins FULL = new Twins(Twins::full);
-    /** 2 nodes and nothing else. */
-    private static final Twins BARE = new Twins(() -> Expect.net("net 2"));
-
+public final class BoundsOfChangesTest extends Bounds {
     public static void main(String[] args) {
         addLinkWhoseNodeDoesNotExist();
         addLinkNodesFirst();

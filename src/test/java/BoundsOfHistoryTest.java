@@ -1,8 +1,5 @@
 /** Boundary cases of promises 17 to 20 and of section 7: one method for each sentence that names one. */
-public final class BoundsOfHistoryTest {
-    private static final Twins NEW = new Twins(PressureNet::new);
-    private static final Twins BUSY = new Twins(Twins::busy);
-
+public final class BoundsOfHistoryTest extends Bounds {
     public static void main(String[] args) {
         nothingToUndo();
         sixCanBeUndone();
@@ -24,11 +21,11 @@ public final class BoundsOfHistoryTest {
     }
 
     private static void nothingToUndo() {
-        NEW.refuses("undo of a new net", Expect.STATE, PressureNet::undo);
+        NEW.refuses("undo of a new net", STATE, PressureNet::undo);
         NEW.asks("undoCount of a new net", 0, PressureNet::undoCount);
-        new Twins(() -> Expect.net("net 2")).refuses("undo behind load", Expect.STATE, PressureNet::undo);
-        new Twins(BoundsOfHistoryTest::allUndone).refuses("undo behind six", Expect.STATE, PressureNet::undo);
-        new Twins(BoundsOfHistoryTest::restored).refuses("undo behind restore", Expect.STATE, PressureNet::undo);
+        new Twins(() -> Expect.net("net 2")).refuses("undo behind load", STATE, PressureNet::undo);
+        new Twins(BoundsOfHistoryTest::allUndone).refuses("undo behind six", STATE, PressureNet::undo);
+        new Twins(BoundsOfHistoryTest::restored).refuses("undo behind restore", STATE, PressureNet::undo);
     }
 
     private static PressureNet allUndone() {
@@ -59,7 +56,7 @@ public final class BoundsOfHistoryTest {
             Expect.same("undoCount", net.undoCount(), i);
             Expect.alike("state before change " + i, Twins.state(net), states[i]);
         }
-        Expect.fails("a seventh", Expect.STATE, net::undo);
+        Expect.fails("a seventh", STATE, net::undo);
     }
 
     private static void theSeventhIsForgotten() {
@@ -74,7 +71,7 @@ public final class BoundsOfHistoryTest {
                 Expect.same("rate", net.flow(0, 2), changes - i);
             }
             Expect.same("none is left", net.undoCount(), 0);
-            Expect.fails("a seventh", Expect.STATE, net::undo);
+            Expect.fails("a seventh", STATE, net::undo);
             Expect.same("the rate stays", net.flow(0, 2), changes - 6);
         }
     }
@@ -88,7 +85,7 @@ public final class BoundsOfHistoryTest {
         for (int left = 5; left >= 0; left--) {
             Expect.same("undo", net.undo(), left);
         }
-        Expect.fails("the 511th call", Expect.STATE, net::undo);
+        Expect.fails("the 511th call", STATE, net::undo);
         Expect.same("the 512th call", net.flow(0, 2), 498 % 301);
     }
 
@@ -142,18 +139,18 @@ public final class BoundsOfHistoryTest {
 
     private static void refusedCallsAreNoChanges() {
         PressureNet net = Expect.net("net 10");
-        Expect.fails("addLink", Expect.INDEX, () -> net.addLink(0, 10, 1));
-        Expect.fails("addFlow", Expect.ARGUMENT, () -> net.addFlow(0, 1, 301, 1));
-        Expect.fails("setCapacity", Expect.INDEX, () -> net.setCapacity(0, 1));
-        Expect.fails("setConflict", Expect.INDEX, () -> net.setConflict(0, 1, true) ? 1 : 0);
-        Expect.fails("setRate", Expect.INDEX, () -> net.setRate(0, 1));
-        Expect.fails("setBudget", Expect.INDEX, () -> net.setBudget(0, 1));
-        Expect.fails("set", Expect.ARGUMENT, () -> net.set(2, 21));
-        Expect.fails("inject", Expect.INDEX, () -> net.inject(0, 1));
-        Expect.fails("flush", Expect.ARGUMENT, () -> net.flush(1, 1));
-        Expect.fails("run", Expect.ARGUMENT, () -> net.run(51));
+        Expect.fails("addLink", INDEX, () -> net.addLink(0, 10, 1));
+        Expect.fails("addFlow", ARGUMENT, () -> net.addFlow(0, 1, 301, 1));
+        Expect.fails("setCapacity", INDEX, () -> net.setCapacity(0, 1));
+        Expect.fails("setConflict", INDEX, () -> net.setConflict(0, 1, true) ? 1 : 0);
+        Expect.fails("setRate", INDEX, () -> net.setRate(0, 1));
+        Expect.fails("setBudget", INDEX, () -> net.setBudget(0, 1));
+        Expect.fails("set", ARGUMENT, () -> net.set(2, 21));
+        Expect.fails("inject", INDEX, () -> net.inject(0, 1));
+        Expect.fails("flush", ARGUMENT, () -> net.flush(1, 1));
+        Expect.fails("run", ARGUMENT, () -> net.run(51));
         Expect.same("no changes", net.undoCount(), 0);
-        Expect.fails("nothing to undo", Expect.STATE, net::undo);
+        Expect.fails("nothing to undo", STATE, net::undo);
     }
 
     private static void whatIsNoChange() {
@@ -169,9 +166,9 @@ public final class BoundsOfHistoryTest {
     }
 
     private static void restoreWithoutACopy() {
-        NEW.refuses("restore of a new net", Expect.STATE, PressureNet::restore);
-        new Twins(BoundsOfHistoryTest::loadedOver).refuses("restore behind load", Expect.STATE, PressureNet::restore);
-        new Twins(BoundsOfHistoryTest::neverSaved).refuses("restore with a history", Expect.STATE, PressureNet::restore);
+        NEW.refuses("restore of a new net", STATE, PressureNet::restore);
+        new Twins(BoundsOfHistoryTest::loadedOver).refuses("restore behind load", STATE, PressureNet::restore);
+        new Twins(BoundsOfHistoryTest::neverSaved).refuses("restore with a history", STATE, PressureNet::restore);
     }
 
     private static PressureNet loadedOver() {
@@ -238,11 +235,11 @@ public final class BoundsOfHistoryTest {
         PressureNet net = Twins.busy();
         net.restore();
         Expect.same("none", net.undoCount(), 0);
-        Expect.fails("nothing to undo", Expect.STATE, net::undo);
+        Expect.fails("nothing to undo", STATE, net::undo);
         net.setRate(0, 7);
         Expect.same("one", net.undoCount(), 1);
         Expect.same("undo", net.undo(), 0);
-        Expect.fails("restore cannot be undone", Expect.STATE, net::undo);
+        Expect.fails("restore cannot be undone", STATE, net::undo);
         Expect.same("slot", net.total(0), 3);
     }
 
@@ -275,7 +272,7 @@ public final class BoundsOfHistoryTest {
         for (int n = 0; n < 5; n++) {
             Expect.same("the last packet of " + n, net.packet(n, 9, 99, 0), n);
             int node = n;
-            Expect.fails("no packet behind it", Expect.ELEMENT, () -> net.packet(node, 9, 100, 0));
+            Expect.fails("no packet behind it", ELEMENT, () -> net.packet(node, 9, 100, 0));
         }
     }
 }

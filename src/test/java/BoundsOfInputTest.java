@@ -1,8 +1,5 @@
 /** Boundary cases of promises 1 to 5 and of section 6: one method for each sentence that names one. */
-public final class BoundsOfInputTest {
-    private static final Twins NEW = new Twins(PressureNet::new);
-    private static final Twins BUSY = new Twins(Twins::busy);
-
+public final class BoundsOfInputTest extends Bounds {
     private static final String TWO = "net 3;link 0 1 1;link 1 2 1;";
 
     public static void main(String[] args) {
@@ -79,9 +76,9 @@ public final class BoundsOfInputTest {
         PressureNet net = new PressureNet();
         Expect.same("length", net.append(0, 0, 0, 0, 0), 0);
         Expect.same("the text ends too early at once", net.errorPosition(), 0);
-        NEW.refuses("truncate", Expect.ARGUMENT, x -> x.truncate(1));
+        NEW.refuses("truncate", ARGUMENT, x -> x.truncate(1));
         NEW.takes("truncate", 0, x -> x.truncate(0));
-        NEW.refuses("load", Expect.ARGUMENT, PressureNet::load);
+        NEW.refuses("load", ARGUMENT, PressureNet::load);
     }
 
     private static void bytesOfValueZeroAreSkipped() {
@@ -138,15 +135,15 @@ public final class BoundsOfInputTest {
     }
 
     private static void nothingIsAppendedThen() {
-        new Twins(() -> filled(700)).refuses("1 at 700", Expect.STATE, x -> x.append(1, 0, 0, 0, 0));
-        new Twins(() -> filled(700)).refuses("the last byte at 700", Expect.STATE, x -> x.append(0, 0, 0, 0, 1));
-        new Twins(() -> filled(699)).refuses("2 at 699", Expect.STATE, x -> x.append(0, 0x00010001, 0, 0, 0));
-        new Twins(() -> filled(681)).refuses("20 at 681", Expect.STATE, x -> x.append(-1, -1, -1, -1, -1));
-        new Twins(() -> filled(690)).refuses("11 at 690", Expect.STATE, x -> x.append(-1, -1, 255, 255, 255));
+        new Twins(() -> filled(700)).refuses("1 at 700", STATE, x -> x.append(1, 0, 0, 0, 0));
+        new Twins(() -> filled(700)).refuses("the last byte at 700", STATE, x -> x.append(0, 0, 0, 0, 1));
+        new Twins(() -> filled(699)).refuses("2 at 699", STATE, x -> x.append(0, 0x00010001, 0, 0, 0));
+        new Twins(() -> filled(681)).refuses("20 at 681", STATE, x -> x.append(-1, -1, -1, -1, -1));
+        new Twins(() -> filled(690)).refuses("11 at 690", STATE, x -> x.append(-1, -1, 255, 255, 255));
     }
 
     private static void truncateLength() {
-        BUSY.refusesEach("truncate", Expect.ARGUMENT, Twins.outside(0, 12), PressureNet::truncate);
+        BUSY.refusesEach("truncate", ARGUMENT, Twins.outside(0, 12), PressureNet::truncate);
         BUSY.asks("truncate to the present length", 12, x -> x.truncate(12));
         BUSY.takes("one byte less", 11, x -> x.truncate(11));
         BUSY.takes("truncate to 0", 0, x -> x.truncate(0));
@@ -156,7 +153,7 @@ public final class BoundsOfInputTest {
         PressureNet net = new PressureNet();
         Expect.append(net, "net 3;bias 12");
         net.truncate(12);
-        Expect.fails("they do not come back", Expect.ARGUMENT, () -> net.truncate(13));
+        Expect.fails("they do not come back", ARGUMENT, () -> net.truncate(13));
         Expect.same("the next stand behind the rest", Expect.append(net, ";mode shadow"), 24);
         net.load();
         Expect.same("bias", net.count(5), 1);
@@ -505,7 +502,7 @@ public final class BoundsOfInputTest {
     private static void loadRefused() {
         String[] bad = {"", " ", "net 3;", "net 11", "net 3;link 0 1 6", "net 4;link 2 1 1;flow 2 1 3;bias 21"};
         for (String text : bad) {
-            new Twins(() -> busyWith(text)).refuses("load of '" + text + "'", Expect.ARGUMENT, PressureNet::load);
+            new Twins(() -> busyWith(text)).refuses("load of '" + text + "'", ARGUMENT, PressureNet::load);
         }
     }
 
@@ -538,9 +535,9 @@ public final class BoundsOfInputTest {
         Expect.alike("nothing but two nodes", Twins.state(net), Twins.state(Expect.net("net 2")));
         Expect.same("links", net.count(1), 0);
         Expect.same("flows", net.count(2), 0);
-        Expect.fails("link 0", Expect.INDEX, () -> net.link(0, 0));
-        Expect.fails("flow 0", Expect.INDEX, () -> net.flow(0, 0));
-        Expect.fails("node 2", Expect.INDEX, () -> net.hops(0, 2));
+        Expect.fails("link 0", INDEX, () -> net.link(0, 0));
+        Expect.fails("flow 0", INDEX, () -> net.flow(0, 0));
+        Expect.fails("node 2", INDEX, () -> net.hops(0, 2));
     }
 
     private static void loadLeavesNothing() {
@@ -549,10 +546,10 @@ public final class BoundsOfInputTest {
         net.load();
         Expect.alike("as if new", Twins.state(net), Twins.state(Expect.net(text)));
         Expect.same("no undo history", net.undoCount(), 0);
-        Expect.fails("nothing to undo", Expect.STATE, net::undo);
-        Expect.fails("no saved copy", Expect.STATE, net::restore);
+        Expect.fails("nothing to undo", STATE, net::undo);
+        Expect.fails("no saved copy", STATE, net::restore);
         Expect.same("the buffer is empty", net.append(0, 0, 0, 0, 0), 0);
-        Expect.fails("a second load", Expect.ARGUMENT, net::load);
+        Expect.fails("a second load", ARGUMENT, net::load);
         net.run(1);
         PressureNet fresh = Expect.net(text);
         fresh.run(1);

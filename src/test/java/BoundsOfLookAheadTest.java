@@ -1,15 +1,5 @@
 /** Boundary cases of promises 38 to 44 and of section 5: one method for each sentence that names one. */
-public final class BoundsOfLookAheadTest {
-    private static final Class<? extends RuntimeException> INDEX = Expect.INDEX;
-    private static final Class<? extends RuntimeException> ARGUMENT = Expect.ARGUMENT;
-    private static final Class<? extends RuntimeException> ELEMENT = Expect.ELEMENT;
-
-    private static final Twins BUSY = new Twins(Twins::busy);
-    private static final Twins WIDE = new Twins(Twins::wide);
-    private static final Twins FULL = new Twins(Twins::full);
-    /** 2 nodes and nothing else. */
-    private static final Twins BARE = new Twins(() -> Expect.net("net 2"));
-
+public final class BoundsOfLookAheadTest extends Bounds {
     public static void main(String[] args) {
         forecastSlots();
         forecastWhat();
@@ -195,29 +185,8 @@ public final class BoundsOfLookAheadTest {
         PressureNet loops = Expect.net("net 4;link 0 1 2;link 1 3 2;link 3 1 2;link 1 2 1;bias 9;flow 0 2 90");
         loops.inject(0, 6);
         Expect.same("the fewest loops of as many packets", loops.bestBias(9), 6);
-        Expect.same("as by runs", loops.bestBias(9), byRuns(loops, 9));
-        Expect.same("as by 50 slots", loops.bestBias(50), byRuns(loops, 50));
-    }
-
-    private static int byRuns(PressureNet net, int slots) {
-        int best = -1;
-        long least = 0;
-        for (int bias = 0; bias <= 20; bias++) {
-            net.set(2, bias);
-            net.run(slots);
-            long loops = 0;
-            for (int k = 0; k < net.count(2); k++) {
-                loops += net.flow(k, 8);
-            }
-            long bad = 1_000_000 * net.total(1) + loops;
-            if (best < 0 || bad < least) {
-                best = bias;
-                least = bad;
-            }
-            net.undo();
-            net.undo();
-        }
-        return best;
+        Expect.same("as by runs", loops.bestBias(9), LookAheadTest.slowBias(loops, 9));
+        Expect.same("as by 50 slots", loops.bestBias(50), LookAheadTest.slowBias(loops, 50));
     }
 
     private static void bestExcessSlots() {

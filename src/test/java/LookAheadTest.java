@@ -69,13 +69,17 @@ public final class LookAheadTest {
         Expect.same("slot", net.total(0), 0);
     }
 
-    private static int slowBias(PressureNet net, int slots) {
+    /** bestBias() by runs that are undone. */
+    static int slowBias(PressureNet net, int slots) {
         int best = -1;
         long least = 0;
         for (int bias = 0; bias <= 20; bias++) {
             net.set(2, bias);
             net.run(slots);
-            long bad = 100000 * net.total(1) + net.flow(0, 8);
+            long bad = 100000 * net.total(1);
+            for (int flow = 0; flow < net.count(2); flow++) {
+                bad += net.flow(flow, 8);
+            }
             if (best < 0 || bad < least) {
                 best = bias;
                 least = bad;

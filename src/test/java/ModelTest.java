@@ -8,13 +8,17 @@ public final class ModelTest {
         long get();
     }
 
-    private static final int STEPS = 450;
+    /** An object is used for so many calls at most; what later calls answer is free. */
+    private static final int MAX_CALLS = 512;
+    /** What askAll() takes at most. */
+    private static final int ALL = 200;
     private final Random random;
     private final PressureNet net = new PressureNet();
     private final ReferenceNet due = new ReferenceNet();
     private final List<String> calls = new ArrayList<>();
     /** Dear calls are rarer, because the model is slow. */
     private int dearCalls = 12;
+    private int made;
     private int calm;
 
     private ModelTest(long seed) {
@@ -22,7 +26,7 @@ public final class ModelTest {
     }
 
     public static void main(String[] args) {
-        int runs = args.length > 0 ? Integer.parseInt(args[0]) : 120;
+        int runs = args.length > 0 ? Integer.parseInt(args[0]) : 160;
         long first = args.length > 1 ? Long.parseLong(args[1]) : 1;
         for (long seed = first; seed < first + runs; seed++) {
             ModelTest test = new ModelTest(seed);
@@ -33,18 +37,20 @@ public final class ModelTest {
                 System.exit(1);
             }
         }
-        System.out.println("ModelTest: " + runs + " runs of " + STEPS + " steps are as the model's");
+        System.out.println("ModelTest: " + runs + " runs of " + MAX_CALLS + " calls are as the model's");
     }
 
     private void compare() {
         // Some runs never empty the net, so that it becomes full and late.
         calm = random.nextInt(4);
         same("setup", () -> setUp(net), () -> setUp(due));
-        for (int i = 0; i < STEPS; i++) {
+        made += words(setupText).size() + 1;
+        boolean asksAll = random.nextBoolean();
+        while (made < (asksAll ? MAX_CALLS - ALL : MAX_CALLS)) {
             step();
-            if (i % 150 == 149) {
-                askAll();
-            }
+        }
+        if (asksAll) {
+            askAll();
         }
     }
 
@@ -433,6 +439,10 @@ public final class ModelTest {
     }
 
     private void same(String name, Answer got, Answer want) {
+        if (made >= MAX_CALLS) {
+            return;
+        }
+        made++;
         calls.add(name);
         String a = answer(got);
         String b = answer(want);

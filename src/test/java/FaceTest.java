@@ -21,6 +21,7 @@ public final class FaceTest {
         face(Files.readString(DOCUMENT));
         members();
         words(source);
+        library(source);
         lengths(source);
         Expect.end("FaceTest");
     }
@@ -108,7 +109,7 @@ public final class FaceTest {
 
     private static void words(String source) {
         for (String bad : new String[] {"->", "::", "finally", "synchronized", "assert ", "catch", "Exact(", "getMessage",
-            "System.nano", "System.current", "Random", "import java.util.function", "Object[]"}) {
+            "System.nano", "System.current", "Random", "import java.util.function", "Object[]", "while (true", "for (;;"}) {
             truth("the source has no " + bad, !source.contains(bad));
         }
         Matcher m = Pattern.compile("import ([\\w.]+);").matcher(source);
@@ -121,6 +122,33 @@ public final class FaceTest {
                 truth("a plain sign, not " + (int) one, false);
             }
         }
+    }
+
+    private static void library(String source) {
+        String code = source.replaceAll("(?s)/\\*.*?\\*/", "").replaceAll("//[^\n]*", "").replaceAll("\"[^\"\n]*\"", "text");
+        Set<String> calls = Set.of("Arrays.fill", "Math.max", "Math.min", "System.arraycopy", "util.Arrays", "util.NoSuchElementException");
+        Matcher call = Pattern.compile("\\b(Arrays|Math|System|Integer|Long|String|Character|Objects|List|util)\\.\\w+").matcher(code);
+        while (call.find()) {
+            truth("the library: " + call.group(), calls.contains(call.group()));
+        }
+        Set<String> made = new TreeSet<>(Set.of("int", "IndexOutOfBoundsException", "IllegalArgumentException",
+            "IllegalStateException", "NoSuchElementException"));
+        for (Class<?> inside : PressureNet.class.getDeclaredClasses()) {
+            made.add(inside.getSimpleName());
+        }
+        Matcher object = Pattern.compile("\\bnew (\\w+)").matcher(code);
+        while (object.find()) {
+            truth("made: " + object.group(1), made.contains(object.group(1)));
+        }
+        Matcher word = Pattern.compile("\\b(try|double|float|Object|instanceof|do)\\b").matcher(code);
+        truth("a word that the class does without", !word.find());
+        Matcher constructor = Pattern.compile("(?s)\n( +)(?:public )?(?:PressureNet|History)\\(\\) \\{(.*?)\n\\1\\}").matcher(code);
+        int constructors = 0;
+        while (constructor.find()) {
+            constructors++;
+            truth("no throw in a constructor", !constructor.group(2).contains("throw"));
+        }
+        Expect.same("constructors with a body", constructors, 2);
     }
 
     /** A method ends at the brace that stands as far to the right as its head does. */
